@@ -100,7 +100,12 @@ public final class PanelOffice {
         if (tally.panels() > 0) {
             return -1;
         }
-        refreshClash();
+        if (!clashIsFresh) {
+            clash.find(quotas, size);
+            clashIsFresh = true;
+            // The search has left its last trial in the tally.
+            tallyIsFresh = false;
+        }
         if (clash.isRefused()) {
             throw new UnsupportedOperationException("too many states without a quota");
         }
@@ -231,14 +236,6 @@ public final class PanelOffice {
         }
     }
 
-    private void refreshClash() {
-        if (!clashIsFresh) {
-            clash.find(quotas, size);
-            clashIsFresh = true;
-            tallyIsFresh = false;
-        }
-    }
-
     private long goalNow() {
         return seats.areDrawn() ? seats.listCandidates() : tally.panels();
     }
@@ -291,11 +288,13 @@ public final class PanelOffice {
     }
 
     private static boolean isIn(long set, int person) {
-        return (set >> person & 1L) != 0;
+        return ((set >> person) & 1L) != 0;
     }
 
     /** The persons, and the kinds that they make, in the order of their values. */
     private static final class Pool {
+        private static final int VALUE_BITS = 2;
+
         private final int[] values = {1, 1, 1};
         // A person's or kind's three values are one number, so that kinds are in the order of their codes.
         private final int[] codes = new int[MOST_PERSONS];
@@ -305,11 +304,11 @@ public final class PanelOffice {
         private int kinds = 0;
 
         static int codeOf(int a, int b, int c) {
-            return (a * MOST_VALUES + b) * MOST_VALUES + c;
+            return (((a << VALUE_BITS) + b) << VALUE_BITS) + c;
         }
 
         static int valueIn(int code, int t) {
-            return code >> 2 * (TRAITS - 1 - t) & MOST_VALUES - 1;
+            return (code >> (VALUE_BITS * (TRAITS - 1 - t))) & (MOST_VALUES - 1);
         }
 
         void clear() {
@@ -416,17 +415,18 @@ public final class PanelOffice {
         private static final int SLOT_BITS = 11;
         private static final int SLOTS = 1 << SLOT_BITS;
         private static final long SPREAD = 0x9E3779B97F4A7C15L;
+        private static final int ROW_BITS = 64;
         private static final int FIELD_BITS = 4;
         private static final int FIELD_MASK = 15;
         // Behind the fields of the values, a row has its number of members, then its layer.
         private static final int MEMBERS_FIELD = QUOTAS;
-        private static final long ONE_MEMBER = 1L << FIELD_BITS * MEMBERS_FIELD;
-        private static final long ONE_LAYER = 1L << FIELD_BITS * (MEMBERS_FIELD + 1);
+        private static final long ONE_MEMBER = 1L << (FIELD_BITS * MEMBERS_FIELD);
+        private static final long ONE_LAYER = 1L << (FIELD_BITS * (MEMBERS_FIELD + 1));
         private static final int CHOICES = MOST_MEMBERS + 1;
 
         private final Pool pool;
         private final long[] rows = new long[ROOM];
-        private final int[] most = new int[ROOM];
+        private final int[] takes = new int[ROOM];
         // A chain from stay[s] along more[] has the states that s leads to with 0, 1, 2.. of the next kind:
         // so two short rows do where a full table would need nine entries a state.
         private final int[] stay = new int[ROOM];
@@ -499,10 +499,10 @@ public final class PanelOffice {
             long one = oneMoreOf(pool.kindCodes[k]);
             int end = found;
             for (int s = layers[k]; s < end && !refused; s++) {
-                most[s] = mostFrom(rows[s], k, quotas, size);
+                takes[s] = takesFrom(rows[s], k, quotas, size);
                 int t = stateOf(rows[s] + ONE_LAYER);
                 stay[s] = t;
-                for (int j = 1; j <= most[s] && !refused; j++) {
+                for (int j = 1; j <= takes[s] && !refused; j++) {
                     if (more[t] < 0) {
                         more[t] = stateOf(rows[t] + one);
                     }
@@ -511,7 +511,7 @@ public final class PanelOffice {
             }
         }
 
-        private int mostFrom(long row, int k, Quotas quotas, int size) {
+        private int takesFrom(long row, int k, Quotas quotas, int size) {
             int room = Math.min(pool.kindSizes[k], size - field(row, MEMBERS_FIELD));
             for (int t = 0; t < TRAITS; t++) {
                 int q = quotaOf(t, Pool.valueIn(pool.kindCodes[k], t));
@@ -523,17 +523,17 @@ public final class PanelOffice {
         private static long oneMoreOf(int code) {
             long one = ONE_MEMBER;
             for (int t = 0; t < TRAITS; t++) {
-                one += 1L << FIELD_BITS * quotaOf(t, Pool.valueIn(code, t));
+                one += 1L << (FIELD_BITS * quotaOf(t, Pool.valueIn(code, t)));
             }
             return one;
         }
 
         private static int field(long row, int at) {
-            return (int) (row >> FIELD_BITS * at) & FIELD_MASK;
+            return (int) (row >> (FIELD_BITS * at)) & FIELD_MASK;
         }
 
         private int stateOf(long row) {
-            int slot = (int) (row * SPREAD >>> 64 - SLOT_BITS);
+            int slot = (int) ((row * SPREAD) >>> (ROW_BITS - SLOT_BITS));
             for (int tries = 0; tries < SLOTS; tries++) {
                 int s = slots[slot];
                 if (s < 0) {
@@ -542,7 +542,7 @@ public final class PanelOffice {
                 if (rows[s] == row) {
                     return s;
                 }
-                slot = slot + 1 & SLOTS - 1;
+                slot = (slot + 1) & (SLOTS - 1);
             }
             return 0;
         }
@@ -583,7 +583,7 @@ public final class PanelOffice {
         private long aheadWithAny(int s, int persons) {
             int t = stay[s];
             long sum = ahead[t];
-            for (int j = 1; j <= most[s]; j++) {
+            for (int j = 1; j <= takes[s]; j++) {
                 t = more[t];
                 sum += choose(persons, j) * ahead[t];
             }
@@ -593,7 +593,7 @@ public final class PanelOffice {
         private long aheadWithOneOf(int s, int persons) {
             int t = stay[s];
             long sum = 0;
-            for (int j = 1; j <= most[s]; j++) {
+            for (int j = 1; j <= takes[s]; j++) {
                 t = more[t];
                 sum += choose(persons - 1, j - 1) * ahead[t];
             }
@@ -613,7 +613,7 @@ public final class PanelOffice {
         private void passOn(int s, int persons) {
             int t = stay[s];
             behind[t] += behind[s];
-            for (int j = 1; j <= most[s]; j++) {
+            for (int j = 1; j <= takes[s]; j++) {
                 t = more[t];
                 behind[t] += choose(persons, j) * behind[s];
             }
@@ -639,7 +639,7 @@ public final class PanelOffice {
                 int t = tally.stay[s];
                 int members = 0;
                 long block = tally.ahead[t];
-                while (members < tally.most[s] && rest >= block) {
+                while (members < tally.takes[s] && rest >= block) {
                     rest -= block;
                     members++;
                     t = tally.more[t];
@@ -678,7 +678,7 @@ public final class PanelOffice {
             int s = 0;
             for (int k = 0; k < pool.kinds; k++) {
                 int members = membersOf(k, set);
-                if (members > tally.most[s]) {
+                if (members > tally.takes[s]) {
                     return -1;
                 }
                 int t = tally.stay[s];

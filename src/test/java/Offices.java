@@ -44,7 +44,7 @@ final class Offices {
         return x;
     }
 
-    /** A panel drawn by throws of 2-sided dice; the number's digits are the throws less 1. */
+    /** Draws the panel of the number that these throws make. */
     static void drawWith(PanelOffice x, int sides, int... thrown) {
         x.dice(sides);
         for (int side : thrown) {
