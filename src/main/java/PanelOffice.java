@@ -169,8 +169,7 @@ public final class PanelOffice {
     public void draw() throws IllegalStateException {
         requireOpen();
         requireNumber();
-        // The search for blocked quotas may have left its own trial in the tally.
-        refreshTally();
+        // The tally is the one that the dice began with: each change since then would have ended the throws.
         ranking.tell(dice.made(), told);
         seats.fill(told, size);
         dice.end();
@@ -434,7 +433,8 @@ public final class PanelOffice {
         private final long[] ahead = new long[ROOM];
         private final long[] behind = new long[ROOM];
         private final int[] slots = new int[SLOTS];
-        private final int[] layers = new int[MOST_KINDS + 2];
+        // Where each layer begins; it ends where the next one begins, the last one at found.
+        private final int[] layers = new int[MOST_KINDS + 1];
         private final int[] chooses = new int[(MOST_PERSONS + 1) * CHOICES];
         private int found = 0;
         private boolean refused = false;
@@ -472,12 +472,10 @@ public final class PanelOffice {
             refused = false;
             behindIsFresh = false;
             stateOf(0L);
-            layers[0] = 0;
             for (int k = 0; k < pool.kinds && !refused; k++) {
                 layers[k + 1] = found;
                 addLayer(k, quotas, size);
             }
-            layers[pool.kinds + 1] = found;
             if (!refused) {
                 countAhead(quotas, size);
             }
@@ -864,7 +862,6 @@ public final class PanelOffice {
         }
 
         void fill(int[] panel, int size) {
-            clear();
             places = Math.min(size, MOST_MEMBERS);
             for (int i = 0; i < places; i++) {
                 members[i] = panel[i];

@@ -2,7 +2,7 @@ import java.util.Random;
 
 /** Promises 1 to 23: long mixed runs of calls, right and wrong ones, each answered as PlainOffice does. */
 public final class AgainstPlainTest {
-    private static final int RUNS = 1500;
+    private static final int RUNS = 800;
     private static final int CALLS = 512;
 
     private final Check check;
@@ -18,7 +18,7 @@ public final class AgainstPlainTest {
         this.check = check;
         this.run = run;
         random = new Random(run);
-        mostPersons = 1 + random.nextInt(11);
+        mostPersons = 1 + random.nextInt(12);
         mostValues = 1 + random.nextInt(4);
     }
 
@@ -33,9 +33,9 @@ public final class AgainstPlainTest {
     private void runAll() {
         int n = 0;
         while (n < CALLS) {
-            if (random.nextInt(60) == 0) {
-                compare("reset", () -> done(office::reset), () -> done(plain::reset));
-                persons = 0;
+            if (n == 0 || random.nextInt(20) == 0) {
+                compare("reset()", () -> done(office::reset), () -> done(plain::reset));
+                n += 1 + beginPool();
             }
             int phase = random.nextInt(10);
             for (int i = 0; i < 12; i++, n++) {
@@ -50,6 +50,21 @@ public final class AgainstPlainTest {
         }
     }
 
+    /** Without it most pools would be too poor for a panel to be drawn. */
+    private int beginPool() {
+        persons = 0;
+        int calls = 0;
+        for (int t = 0; t < 3 && random.nextInt(8) != 0; t++, calls++) {
+            trait(t, mostValues);
+        }
+        while (persons < mostPersons && calls < 40) {
+            person();
+            calls++;
+        }
+        size(1 + random.nextInt(Math.max(1, Math.min(8, persons - 1))));
+        return calls + 1;
+    }
+
     private int near(int bound) {
         return random.nextInt(12) == 0 ? random.nextInt(bound + 4) - 2 : random.nextInt(Math.max(1, bound));
     }
@@ -58,15 +73,9 @@ public final class AgainstPlainTest {
         int a = near(3);
         int b = near(4);
         switch (random.nextInt(7)) {
-            case 0 -> {
-                int n = 1 + near(mostValues);
-                compare("trait(" + a + ", " + n + ")", () -> done(() -> office.trait(a, n)), () -> done(() -> plain.trait(a, n)));
-            }
+            case 0 -> trait(a, 1 + near(mostValues));
             case 1, 2, 3 -> person();
-            case 4 -> {
-                int n = 1 + near(random.nextBoolean() ? 3 : 8);
-                compare("size(" + n + ")", () -> done(() -> office.size(n)), () -> done(() -> plain.size(n)));
-            }
+            case 4 -> size(1 + near(random.nextBoolean() ? 3 : 8));
             default -> {
                 int least = random.nextBoolean() ? 0 : near(4);
                 int most = random.nextInt(3) == 0 ? 8 : least + near(4);
@@ -74,6 +83,14 @@ public final class AgainstPlainTest {
                     () -> done(() -> office.quota(a, b, least, most)), () -> done(() -> plain.quota(a, b, least, most)));
             }
         }
+    }
+
+    private void trait(int t, int n) {
+        compare("trait(" + t + ", " + n + ")", () -> done(() -> office.trait(t, n)), () -> done(() -> plain.trait(t, n)));
+    }
+
+    private void size(int n) {
+        compare("size(" + n + ")", () -> done(() -> office.size(n)), () -> done(() -> plain.size(n)));
     }
 
     private void person() {

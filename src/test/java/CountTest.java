@@ -159,6 +159,7 @@ public final class CountTest {
             CHECK.is("chance(" + p + ")", due[p], () -> x.chance(person));
         }
         x.quota(1, 2, 0, 0);
+        CHECK.is("chance(0) with a new quota", 3, () -> x.chance(0));
         CHECK.is("no one of value 2", 0, () -> x.chance(1));
         CHECK.is("no one of value 2", 0, () -> x.chance(4));
         x.size(8);
@@ -208,6 +209,14 @@ public final class CountTest {
     }
 
     private static void blockedByNothing() {
+        PanelOffice only = withCodes(new int[] {2, 1, 1}, 2, "000", "000", "100");
+        only.quota(0, 1, 0, 0);
+        CHECK.is("one panel", 1, only::count);
+        CHECK.is("one panel is enough", -1, () -> only.blocked(0));
+        only.quota(0, 1, 0, 8);
+        only.quota(0, 0, 0, 0);
+        CHECK.is("a quota of 0 and 0", 0, () -> only.blocked(0));
+        CHECK.is("a quota of 0 and 8 never blocks", -1, () -> only.blocked(1));
         PanelOffice x = Offices.alike(3, 4);
         CHECK.is("too few persons", -1, () -> x.blocked(0));
         x.quota(0, 0, 4, 4);

@@ -4,6 +4,7 @@ public final class ResetTest {
 
     public static void main(String[] args) {
         afterChanges();
+        afterNarrowQuotas();
         afterThrows();
         afterADraw();
         afterAClash();
@@ -54,6 +55,18 @@ public final class ResetTest {
         x.mark(0);
         x.mark(3);
         return x;
+    }
+
+    private static void afterNarrowQuotas() {
+        PanelOffice x = new PanelOffice();
+        for (int t = 0; t < 3; t++) {
+            x.trait(t, 4);
+            for (int v = 0; v < 4; v++) {
+                x.quota(t, v, 0, 0);
+            }
+        }
+        x.reset();
+        isAsAtFirst("after quotas of 0", x);
     }
 
     private static void afterChanges() {
