@@ -19,6 +19,15 @@ final class Check {
         this.test = test;
     }
 
+    /** A part of a test: if it can't go on, that is a wrong answer, and the parts behind it are run all the same. */
+    void run(Done part) {
+        String end = outcomeOf(part);
+        if (!end.equals("done")) {
+            wrong++;
+            System.out.println(test + ": " + sentence + "ended with " + end);
+        }
+    }
+
     /** The answers from now on belong to this sentence of the document; a bound has two sides, so they are two or more. */
     void sentence(String words) {
         endSentence();

@@ -3,23 +3,23 @@ public final class CountBoundsTest {
     private static final Check CHECK = new Check("CountBoundsTest");
 
     public static void main(String[] args) {
-        howManyPanels();
-        countIsRefused();
-        howManyStates();
-        statesBeyondThousand();
-        howManyPanelsOfAPerson();
-        chanceOfNoSuchPerson();
-        chanceIsRefused();
-        howManyKinds();
-        kindOfAPerson();
-        kindOfNoSuchPerson();
-        blockedAsTenTimesTrait();
-        notSoManyBlocked();
-        noneBlockedIfThereIsAPanel();
-        blockedBelowZero();
-        blockedIsRefused();
-        blockedIsRefusedWithoutAQuota();
-        blockedIsRefusedWithThoseLeftOut();
+        CHECK.run(CountBoundsTest::howManyPanels);
+        CHECK.run(CountBoundsTest::countIsRefused);
+        CHECK.run(CountBoundsTest::howManyStates);
+        CHECK.run(CountBoundsTest::statesBeyondThousand);
+        CHECK.run(CountBoundsTest::howManyPanelsOfAPerson);
+        CHECK.run(CountBoundsTest::chanceOfNoSuchPerson);
+        CHECK.run(CountBoundsTest::chanceIsRefused);
+        CHECK.run(CountBoundsTest::howManyKinds);
+        CHECK.run(CountBoundsTest::kindOfAPerson);
+        CHECK.run(CountBoundsTest::kindOfNoSuchPerson);
+        CHECK.run(CountBoundsTest::blockedAsTenTimesTrait);
+        CHECK.run(CountBoundsTest::notSoManyBlocked);
+        CHECK.run(CountBoundsTest::noneBlockedIfThereIsAPanel);
+        CHECK.run(CountBoundsTest::blockedBelowZero);
+        CHECK.run(CountBoundsTest::blockedIsRefused);
+        CHECK.run(CountBoundsTest::blockedIsRefusedWithoutAQuota);
+        CHECK.run(CountBoundsTest::blockedIsRefusedWithThoseLeftOut);
         CHECK.finish();
     }
 
@@ -82,6 +82,9 @@ public final class CountBoundsTest {
         CHECK.is("in no panel", 0, () -> x.chance(4));
         CHECK.is("one of the two that are needed, then", 2, () -> x.chance(0));
         CHECK.is("one of the others, then", 2, () -> x.chance(3));
+        x.person(0, 0, 0);
+        CHECK.is("one of three that are needed", 2, () -> x.chance(0));
+        CHECK.is("one of the others, with three that are needed", 3, () -> x.chance(3));
         PanelOffice all = Offices.alike(8, 8);
         CHECK.is("in the only panel", 1, () -> all.chance(7));
         all.person(0, 0, 0);
@@ -262,6 +265,13 @@ public final class CountBoundsTest {
         CHECK.is("1000 states with both", 1000, x::states);
         CHECK.is("no panel", 0, x::count);
         CHECK.refused("1001 states without the second", () -> x.blocked(0));
+        x.quota(0, 0, 0, 8);
+        x.quota(0, 1, 0, 7);
+        x.quota(1, 0, 8, 8);
+        CHECK.is("1000 states with both", 1000, x::states);
+        CHECK.refused("1001 states without the first, though the second would be told", () -> x.blocked(0));
+        x.quota(0, 1, 0, 8);
+        CHECK.refused("1001 states with the second alone", () -> x.blocked(0));
         PanelOffice y = Offices.thousandStates();
         y.quota(0, 1, 0, 0);
         y.quota(2, 0, 0, 0);

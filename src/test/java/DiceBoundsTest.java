@@ -3,19 +3,19 @@ public final class DiceBoundsTest {
     private static final Check CHECK = new Check("DiceBoundsTest");
 
     public static void main(String[] args) {
-        throwsBeginAnew();
-        howManyThrows();
-        numberAtOnce();
-        noSuchSides();
-        diceAreRefused();
-        goalIsZero();
-        drawnAndNoPlaceEmpty();
-        answersOfAThrow();
-        noneWereBegun();
-        numberIsThere();
-        noSuchSide();
-        numberThatWasMade();
-        numberIsNotThere();
+        CHECK.run(DiceBoundsTest::throwsBeginAnew);
+        CHECK.run(DiceBoundsTest::howManyThrows);
+        CHECK.run(DiceBoundsTest::numberAtOnce);
+        CHECK.run(DiceBoundsTest::noSuchSides);
+        CHECK.run(DiceBoundsTest::diceAreRefused);
+        CHECK.run(DiceBoundsTest::goalIsZero);
+        CHECK.run(DiceBoundsTest::drawnAndNoPlaceEmpty);
+        CHECK.run(DiceBoundsTest::answersOfAThrow);
+        CHECK.run(DiceBoundsTest::noneWereBegun);
+        CHECK.run(DiceBoundsTest::numberIsThere);
+        CHECK.run(DiceBoundsTest::noSuchSide);
+        CHECK.run(DiceBoundsTest::numberThatWasMade);
+        CHECK.run(DiceBoundsTest::numberIsNotThere);
         CHECK.finish();
     }
 

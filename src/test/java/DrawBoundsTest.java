@@ -3,30 +3,30 @@ public final class DrawBoundsTest {
     private static final Check CHECK = new Check("DrawBoundsTest");
 
     public static void main(String[] args) {
-        panelOfTheNumber();
-        numberIsUsed();
-        throwsEndToo();
-        drawIfNotOpen();
-        drawWithoutANumber();
-        memberInItsOrder();
-        thatOnesPlace();
-        whereAPlaceIsEmpty();
-        memberIfNotDrawn();
-        memberNotBelowSize();
-        aMemberDropsOut();
-        dropOutIfNotDrawn();
-        dropOutIfAPlaceIsEmpty();
-        dropOutOfNoMember();
-        theCandidates();
-        notSoManyCandidates();
-        noPlaceIsEmptyForACandidate();
-        candidateBelowZero();
-        candidateOfTheNumberComes();
-        replaceIfNoPlaceIsEmpty();
-        replaceWithoutANumber();
-        breachAsMembersAreNow();
-        breachIfNotDrawn();
-        allAsAtFirst();
+        CHECK.run(DrawBoundsTest::panelOfTheNumber);
+        CHECK.run(DrawBoundsTest::numberIsUsed);
+        CHECK.run(DrawBoundsTest::throwsEndToo);
+        CHECK.run(DrawBoundsTest::drawIfNotOpen);
+        CHECK.run(DrawBoundsTest::drawWithoutANumber);
+        CHECK.run(DrawBoundsTest::memberInItsOrder);
+        CHECK.run(DrawBoundsTest::thatOnesPlace);
+        CHECK.run(DrawBoundsTest::whereAPlaceIsEmpty);
+        CHECK.run(DrawBoundsTest::memberIfNotDrawn);
+        CHECK.run(DrawBoundsTest::memberNotBelowSize);
+        CHECK.run(DrawBoundsTest::aMemberDropsOut);
+        CHECK.run(DrawBoundsTest::dropOutIfNotDrawn);
+        CHECK.run(DrawBoundsTest::dropOutIfAPlaceIsEmpty);
+        CHECK.run(DrawBoundsTest::dropOutOfNoMember);
+        CHECK.run(DrawBoundsTest::theCandidates);
+        CHECK.run(DrawBoundsTest::notSoManyCandidates);
+        CHECK.run(DrawBoundsTest::noPlaceIsEmptyForACandidate);
+        CHECK.run(DrawBoundsTest::candidateBelowZero);
+        CHECK.run(DrawBoundsTest::candidateOfTheNumberComes);
+        CHECK.run(DrawBoundsTest::replaceIfNoPlaceIsEmpty);
+        CHECK.run(DrawBoundsTest::replaceWithoutANumber);
+        CHECK.run(DrawBoundsTest::breachAsMembersAreNow);
+        CHECK.run(DrawBoundsTest::breachIfNotDrawn);
+        CHECK.run(DrawBoundsTest::allAsAtFirst);
         CHECK.finish();
     }
 
@@ -346,15 +346,18 @@ public final class DrawBoundsTest {
 
     private static void breachAsMembersAreNow() {
         CHECK.sentence("Promise 22: The breach of the panel drawn, as its members are now");
-        PanelOffice x = Offices.byValue(2, 2, 1);
+        PanelOffice x = Offices.byValue(2, 3, 1);
         x.quota(0, 0, 2, 2);
-        x.dice(2);
-        x.draw();
+        Offices.drawWith(x, 3, 1);
         CHECK.is("all members", 0, x::breach);
         x.dropOut(0);
         CHECK.is("an empty place", 1, x::breach);
-        CHECK.is("not as it would be with a candidate", 2, () -> x.candidate(0));
-        CHECK.is("an empty place still", 1, x::breach);
+        CHECK.candidatesAre(x, 2);
+        CHECK.is("not as it would be with the candidate", 1, x::breach);
+        x.dice(2);
+        x.replace();
+        CHECK.is("the same value in that place", 0, x::breach);
+        x.dropOut(2);
         x.dice(2);
         x.replace();
         CHECK.is("another value in that place", 1, x::breach);

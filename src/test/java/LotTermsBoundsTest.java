@@ -4,31 +4,31 @@ public final class LotTermsBoundsTest {
     private static final long EIGHT_OF_FORTY = 76904685;
 
     public static void main(String[] args) {
-        blockedIfThereIsNoPanel();
-        blockedByTraitThenValue();
-        blockedAreNotZeroAndEight();
-        leftOutIfNoPanelWithoutIt();
-        leftOutWithThoseSoFar();
-        thoseNotLeftOut();
-        twoToTwentySides();
-        fewestThrows();
-        digitsFirstHighest();
-        eachThrowLessOne();
-        allThrownAgain();
-        allOfThemAreThrownAgain();
-        restByTheGoal();
-        noThrowForAGoalOfOne();
-        goalWhileOpen();
-        panelWithTheNumber();
-        nothingMayBeChanged();
-        dropOutThen();
-        goalWhileAPlaceIsEmpty();
-        justOneAtATime();
-        notMembersAndNotDroppedOut();
-        breachIsLeast();
-        upwardByNumber();
-        belowLeastOrAboveMost();
-        allTogether();
+        CHECK.run(LotTermsBoundsTest::blockedIfThereIsNoPanel);
+        CHECK.run(LotTermsBoundsTest::blockedByTraitThenValue);
+        CHECK.run(LotTermsBoundsTest::blockedAreNotZeroAndEight);
+        CHECK.run(LotTermsBoundsTest::leftOutIfNoPanelWithoutIt);
+        CHECK.run(LotTermsBoundsTest::leftOutWithThoseSoFar);
+        CHECK.run(LotTermsBoundsTest::thoseNotLeftOut);
+        CHECK.run(LotTermsBoundsTest::twoToTwentySides);
+        CHECK.run(LotTermsBoundsTest::fewestThrows);
+        CHECK.run(LotTermsBoundsTest::digitsFirstHighest);
+        CHECK.run(LotTermsBoundsTest::eachThrowLessOne);
+        CHECK.run(LotTermsBoundsTest::allThrownAgain);
+        CHECK.run(LotTermsBoundsTest::allOfThemAreThrownAgain);
+        CHECK.run(LotTermsBoundsTest::restByTheGoal);
+        CHECK.run(LotTermsBoundsTest::noThrowForAGoalOfOne);
+        CHECK.run(LotTermsBoundsTest::goalWhileOpen);
+        CHECK.run(LotTermsBoundsTest::panelWithTheNumber);
+        CHECK.run(LotTermsBoundsTest::nothingMayBeChanged);
+        CHECK.run(LotTermsBoundsTest::dropOutThen);
+        CHECK.run(LotTermsBoundsTest::goalWhileAPlaceIsEmpty);
+        CHECK.run(LotTermsBoundsTest::justOneAtATime);
+        CHECK.run(LotTermsBoundsTest::notMembersAndNotDroppedOut);
+        CHECK.run(LotTermsBoundsTest::breachIsLeast);
+        CHECK.run(LotTermsBoundsTest::upwardByNumber);
+        CHECK.run(LotTermsBoundsTest::belowLeastOrAboveMost);
+        CHECK.run(LotTermsBoundsTest::allTogether);
         CHECK.finish();
     }
 

@@ -7,29 +7,29 @@ public final class PoolBoundsTest {
     }
 
     public static void main(String[] args) {
-        noPersons();
-        isOpen();
-        soManyValuesFromNowOn();
-        noSuchTrait();
-        noSuchNumberOfValues();
-        valueThatThereWouldBeNoneOf();
-        traitIfDrawn();
-        changesEndThrows();
-        quotasStay();
-        quotasOfNoValueHaveNoEffect();
-        personsNumber();
-        noSuchValueOfAPerson();
-        personIfDrawn();
-        thereAreForty();
-        thereWouldBeSeventeenKinds();
-        valueHasThisQuota();
-        noSuchTraitOfAQuota();
-        noSuchValueOfAQuota();
-        notInTheOrderOfAQuota();
-        quotaIfDrawn();
-        soManyMembers();
-        noSuchSize();
-        sizeIfDrawn();
+        CHECK.run(PoolBoundsTest::noPersons);
+        CHECK.run(PoolBoundsTest::isOpen);
+        CHECK.run(PoolBoundsTest::soManyValuesFromNowOn);
+        CHECK.run(PoolBoundsTest::noSuchTrait);
+        CHECK.run(PoolBoundsTest::noSuchNumberOfValues);
+        CHECK.run(PoolBoundsTest::valueThatThereWouldBeNoneOf);
+        CHECK.run(PoolBoundsTest::traitIfDrawn);
+        CHECK.run(PoolBoundsTest::changesEndThrows);
+        CHECK.run(PoolBoundsTest::quotasStay);
+        CHECK.run(PoolBoundsTest::quotasOfNoValueHaveNoEffect);
+        CHECK.run(PoolBoundsTest::personsNumber);
+        CHECK.run(PoolBoundsTest::noSuchValueOfAPerson);
+        CHECK.run(PoolBoundsTest::personIfDrawn);
+        CHECK.run(PoolBoundsTest::thereAreForty);
+        CHECK.run(PoolBoundsTest::thereWouldBeSeventeenKinds);
+        CHECK.run(PoolBoundsTest::valueHasThisQuota);
+        CHECK.run(PoolBoundsTest::noSuchTraitOfAQuota);
+        CHECK.run(PoolBoundsTest::noSuchValueOfAQuota);
+        CHECK.run(PoolBoundsTest::notInTheOrderOfAQuota);
+        CHECK.run(PoolBoundsTest::quotaIfDrawn);
+        CHECK.run(PoolBoundsTest::soManyMembers);
+        CHECK.run(PoolBoundsTest::noSuchSize);
+        CHECK.run(PoolBoundsTest::sizeIfDrawn);
         CHECK.finish();
     }
 
@@ -392,6 +392,8 @@ public final class PoolBoundsTest {
             CHECK.works("the last place of " + n, () -> x.panel(0, size - 1));
             CHECK.argument("a place behind it", () -> x.panel(0, size));
         }
+        x.size(2);
+        CHECK.is("fewer again", 36, x::count);
     }
 
     private static void noSuchSize() {

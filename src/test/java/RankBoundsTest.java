@@ -3,19 +3,19 @@ public final class RankBoundsTest {
     private static final Check CHECK = new Check("RankBoundsTest");
 
     public static void main(String[] args) {
-        memberOfThePanelWithARank();
-        noSuchPanel();
-        placeNotBelowSize();
-        panelIsRefused();
-        placeFirstRankLast();
-        markedOrNoMore();
-        alsoWhenDrawn();
-        markOfNoSuchPerson();
-        marksStay();
-        rankOfAllMarked();
-        markedAreNone();
-        rankIsRefused();
-        refusedFirst();
+        CHECK.run(RankBoundsTest::memberOfThePanelWithARank);
+        CHECK.run(RankBoundsTest::noSuchPanel);
+        CHECK.run(RankBoundsTest::placeNotBelowSize);
+        CHECK.run(RankBoundsTest::panelIsRefused);
+        CHECK.run(RankBoundsTest::placeFirstRankLast);
+        CHECK.run(RankBoundsTest::markedOrNoMore);
+        CHECK.run(RankBoundsTest::alsoWhenDrawn);
+        CHECK.run(RankBoundsTest::markOfNoSuchPerson);
+        CHECK.run(RankBoundsTest::marksStay);
+        CHECK.run(RankBoundsTest::rankOfAllMarked);
+        CHECK.run(RankBoundsTest::markedAreNone);
+        CHECK.run(RankBoundsTest::rankIsRefused);
+        CHECK.run(RankBoundsTest::refusedFirst);
         CHECK.finish();
     }
 
