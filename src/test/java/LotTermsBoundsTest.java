@@ -330,7 +330,7 @@ public final class LotTermsBoundsTest {
     }
 
     private static void goalWhileAPlaceIsEmpty() {
-        CHECK.sentence("while one place is empty the goal is how many CANDIDATES there are");
+        CHECK.sentence("while one place is empty (just one at a time) the goal is how many CANDIDATES there are");
         PanelOffice x = alikeDrawn();
         CHECK.state("no place is empty", () -> x.dice(6));
         x.dropOut(1);
